@@ -460,7 +460,7 @@ public final class ShearHedge {
     // ---- MARKS
 
     public int mark() {
-        if (marks >= MOST_MARKS) return none(ONE_TOO_MANY);
+        if (marks < 0 || marks >= MOST_MARKS) return none(ONE_TOO_MANY);
         Hedge.copy(hedge, keptHedges[marks]);
         Seasons.copy(seasons, keptSeasons[marks]);
         marks++;
@@ -1091,7 +1091,6 @@ public final class ShearHedge {
         }
 
         void forget() {
-            begin();
             given = false;
         }
 

@@ -152,6 +152,8 @@ public final class DeedsTest {
         Check.refused(x, "offer(0, 0)", x.offer(0, 0), 5);
         Check.refused(x, "offer(-1, 1)", x.offer(-1, 1), 5);
         Check.refused(x, "offer(1, -1)", x.offer(1, -1), 5);
+        Check.refused(x, "offer(-1, 5)", x.offer(-1, 5), 5);
+        Check.refused(x, "offer(5, -1)", x.offer(5, -1), 5);
         Check.refused(x, "offer(21, 1)", x.offer(21, 1), 5);
         Check.refused(x, "offer(1, 21)", x.offer(1, 21), 5);
         Check.refused(x, "offer(max, 1)", x.offer(Integer.MAX_VALUE, Integer.MAX_VALUE), 5);

@@ -10,6 +10,7 @@ public final class SeasonsTest {
         stops();
         seeds();
         livedStays();
+        livesAreApart();
         means();
         Check.end("SeasonsTest");
     }
@@ -251,6 +252,23 @@ public final class SeasonsTest {
         Check.taken(x, "lived(0) behind mean()", x.lived(0), missed);
         Check.refused(x, "live(10000)", x.live(10000), 5);
         Check.taken(x, "lived(3) behind a live() that is refused", x.lived(3), 1);
+    }
+
+    private static void livesAreApart() {
+        ShearHedge x = of("sprig blue;sprig blue;", "loop 99;cut left 0;cut left 1;grow blue;stop;end;");
+        x.live(0);
+        lived(x, 0, 2, 2, 1, 0);
+        Check.seasons(x, "loop 99;cut left 0;loop 2;any;any;any;end;end;");
+        Check.taken(x, "live(0)", x.live(0), 300);
+        Check.taken(x, "lived(4)", x.lived(4), 1);
+        Check.seasons(x, "when worth<9;grow red;end;");
+        Check.taken(x, "live(0): a when is no loop", x.live(0), 2);
+        lived(x, 0, 0, 0, 1, 0);
+        Check.seasons(x, "any;");
+        Check.hedge(x, "");
+        Check.seasons(x, "");
+        x.live(0);
+        lived(x, 0, 0, 0, 0, 0);
     }
 
     private static void means() {

@@ -7,6 +7,7 @@ public final class TextsTest {
         limitsOfHedges();
         seasonsFaults();
         limitsOfSeasons();
+        textsAreApart();
         faultTellsOfTheLatest();
         refusedTextsKeepTheOldOnes();
         asked();
@@ -67,6 +68,13 @@ public final class TextsTest {
         Check.taken(x, "many(5)", x.many(5), 0);
         Check.taken(x, "many(6)", x.many(6), 0);
         Check.refused(x, "live(0): no SEASONS", x.live(0), 8);
+        Check.taken(x, "take", x.take(1, 0), -1);
+        x.cut(0, 0);
+        x.pile(3);
+        Check.taken(x, "colourings: what these try is not left in the next hedge", x.colourings(0, -1, 0), 1);
+        Check.taken(x, "another one in place of it", Check.hedge(x, "sprig red;"), 1);
+        int[] due = {1, 0, 0, 1, 0, 0, 0};
+        for (int what = 0; what <= 6; what++) Check.taken(x, "many " + what, x.many(what), due[what]);
         Check.due("a hedge of blanks", Check.of("  \n ").many(0), 0);
         Check.due("numbers end where letters begin", Check.of("sprig blue;sprig blue on 0;heap 1;heap 2;bet 1 1;").many(1), 2);
     }
@@ -88,6 +96,17 @@ public final class TextsTest {
         Check.faultyHedge(";", 2, 0);
         Check.faultyHedge("<", 2, 0);
         Check.faultyHedge("sprigblue;", 2, 0);
+        Check.faultyHedge("z", 2, 0);
+        Check.faultyHedge("a", 2, 0);
+        Check.faultyHedge("{", 1, 0);
+        Check.faultyHedge("`", 1, 0);
+        Check.faultyHedge("/", 1, 0);
+        Check.faultyHedge(":", 1, 0);
+        Check.faultyHedge("0", 2, 0);
+        Check.faultyHedge("9", 2, 0);
+        Check.faultyHedge("?", 1, 0);
+        Check.faultyHedge(">", 2, 0);
+        Check.faultyHedge("=", 2, 0);
         Check.faultyHedge("sprig;", 2, 5);
         Check.faultyHedge("sprig", 2, 5);
         Check.faultyHedge("sprig  ", 2, 7);
@@ -218,6 +237,22 @@ public final class TextsTest {
         Check.taken(x, "three deep, left, three deep", Check.seasons(x, blocks + "end;when stands 1;end;end;loop 2;end;end;"), 5);
     }
 
+    /** What a faulty text leaves open is not open in the next one. */
+    private static void textsAreApart() {
+        ShearHedge x = new ShearHedge();
+        Check.refused(x, "three left open", Check.seasons(x, "loop 1;loop 1;loop 1;any;"), 10);
+        Check.refused(x, "an end without a beginning", Check.seasons(x, "end;"), 10);
+        Check.due("fault(1)", x.fault(1), 0);
+        Check.refused(x, "three left open", Check.seasons(x, "any;loop 1;loop 1;loop 1;!"), 10);
+        Check.taken(x, "three within one another", Check.seasons(x, "loop 1;loop 1;loop 1;end;end;end;"), 3);
+        Check.refused(x, "thirty and a fault", Check.seasons(x, "any;".repeat(30) + "!"), 10);
+        Check.taken(x, "thirty", Check.seasons(x, "any;".repeat(30)), 30);
+        Check.refused(x, "a full hedge and a fault", Check.hedge(x, "sprig red;".repeat(20) + "heap 1;heap 1;heap 1;heap 1;!"), 10);
+        Check.refused(x, "none told ahead", Check.hedge(x, "sprig red on 0;"), 10);
+        Check.due("fault(0)", x.fault(0), 4);
+        Check.taken(x, "four heaps", Check.hedge(x, "heap 1;heap 1;heap 1;heap 1;"), 0);
+    }
+
     private static void faultTellsOfTheLatest() {
         ShearHedge x = new ShearHedge();
         Check.hedge(x, "sprig ;");
@@ -310,5 +345,11 @@ public final class TextsTest {
         Check.taken(x, "copyColours(0)", x.copyColours(0), 4);
         int[] due = {0, 3, 2, 1};
         for (int i = 0; i < 4; i++) Check.taken(x, "read", x.read(0, i), due[i]);
+        x.cut(0, 0);
+        x.tray(0, 0, 5);
+        x.write(0, 4, 77);
+        Check.taken(x, "copyColours(0)", x.copyColours(0), 4);
+        Check.taken(x, "the first", x.read(0, 0), 3);
+        Check.taken(x, "behind the last", x.read(0, 4), 77);
     }
 }

@@ -32,10 +32,12 @@ public final class TraysTest {
         Check.taken(x, "read(1, 59)", x.read(1, 59), 77);
         Check.taken(x, "a row anew is all 0", x.tray(1, 1, 60));
         Check.taken(x, "read(1, 59)", x.read(1, 59), 0);
+        x.write(1, 0, 6);
         x.write(1, 2, 5);
         Check.taken(x, "a shorter row", x.tray(1, 1, 2));
         Check.refused(x, "read behind it", x.read(1, 2), 4);
         Check.taken(x, "a longer row", x.tray(1, 1, 3));
+        Check.taken(x, "read(1, 0)", x.read(1, 0), 0);
         Check.taken(x, "read(1, 2)", x.read(1, 2), 0);
         Check.taken(x, "a row of nothing", x.tray(2, 0, 0));
         Check.refused(x, "read(2, 0)", x.read(2, 0), 4);
