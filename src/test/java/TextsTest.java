@@ -75,6 +75,8 @@ public final class TextsTest {
         Check.taken(x, "another one in place of it", Check.hedge(x, "sprig red;"), 1);
         int[] due = {1, 0, 0, 1, 0, 0, 0};
         for (int what = 0; what <= 6; what++) Check.taken(x, "many " + what, x.many(what), due[what]);
+        Check.taken(x, "a hedge of nothing in place of it", Check.hedge(x, ""), 0);
+        for (int what = 0; what <= 6; what++) Check.taken(x, "many " + what, x.many(what), 0);
         Check.due("a hedge of blanks", Check.of("  \n ").many(0), 0);
         Check.due("numbers end where letters begin", Check.of("sprig blue;sprig blue on 0;heap 1;heap 2;bet 1 1;").many(1), 2);
     }
