@@ -159,7 +159,6 @@ public final class ColouringsTest {
         x.cut(1, 1);
         Check.taken(x, "luck(0) of six, and one that FELL", x.luck(0));
         ShearHedge fell = Check.of("heap 1;sprig blue;sprig blue;sprig red on 1;sprig red;sprig red;sprig green;sprig green on 5;sprig blue;");
-        Check.refused(fell, "luck(0): a HEAP", fell.luck(0), 9);
         fell.less(0, 0);
         Check.refused(fell, "luck(0) of eight", fell.luck(0), 9);
         fell.cut(0, 0);
@@ -177,7 +176,11 @@ public final class ColouringsTest {
         Check.taken(six, "luck(1) of the same, behind another HEDGE", six.luck(1));
         Check.due("top()", six.top(), fell.top());
         Check.due("bottom()", six.bottom(), fell.bottom());
-        ShearHedge y = new ShearHedge();
+        ShearHedge y = Check.of("heap 1;heap 0;heap 0;heap 0;");
+        Check.refused(y, "luck(0): the first HEAP", y.luck(0), 9);
+        Check.hedge(y, "heap 0;heap 0;heap 0;heap 1;");
+        Check.refused(y, "luck(0): the last HEAP", y.luck(0), 9);
+        Check.hedge(y, "");
         Check.tells(y, "luck(0) of nothing", y.luck(0), 0, 1);
         Check.tells(y, "luck(1) of nothing", y.luck(1), 1, 1);
         ShearHedge z = Check.of("sprig green;sprig green on 0;sprig green on 1;");

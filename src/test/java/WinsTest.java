@@ -6,6 +6,7 @@ public final class WinsTest {
         best();
         stops();
         heats();
+        nothingOfTheOldHedge();
         Check.end("WinsTest");
     }
 
@@ -125,6 +126,25 @@ public final class WinsTest {
         ShearHedge y = Check.of("bet 6 0;bet 0 6;bet 3 3;");
         Check.tells(y, "stop(0): of several the first", y.stop(0), 6 - 6 + 3, 1);
         Check.tells(y, "stop(1): of several the first", y.stop(1), 0 + 0 - 3, 1);
+    }
+
+    private static void nothingOfTheOldHedge() {
+        ShearHedge x = Check.of("sprig blue;".repeat(20) + "heap 15;heap 14;heap 13;heap 11;" + "bet 20 20;".repeat(5));
+        Check.taken(x, "moves(0)", x.moves(0), 20 + 53 + 5);
+        Check.hedge(x, "sprig red;heap 1;bet 2 1;");
+        Check.taken(x, "moves(0)", x.moves(0), 2);
+        Check.taken(x, "moves(1)", x.moves(1), 3);
+        Check.taken(x, "nimber()", x.nimber(), 1);
+        Check.tells(x, "stop(0)", x.stop(0), 1, 1);
+        x.take(0, 0);
+        Check.refused(x, "hottest()", x.hottest(), 8);
+        Check.tells(x, "stop(0)", x.stop(0), 1, 1);
+        Check.hedge(x, "");
+        Check.taken(x, "moves(0)", x.moves(0), 0);
+        Check.taken(x, "moves(1)", x.moves(1), 0);
+        Check.refused(x, "hottest()", x.hottest(), 8);
+        Check.taken(x, "balance()", x.balance(), 0);
+        Check.tells(x, "luck(1)", x.luck(1), 1, 1);
     }
 
     private static void heats() {
