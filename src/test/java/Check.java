@@ -119,6 +119,11 @@ final class Check {
         return all.toString();
     }
 
+    /** How many answers were not as due so far. */
+    static int wrong() {
+        return wrong;
+    }
+
     static void end(String name) {
         System.out.println(name + ": " + asked + " answers looked at, " + wrong + " not as due");
         if (wrong != 0) System.exit(1);

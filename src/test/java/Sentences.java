@@ -1,0 +1,97 @@
+import java.io.IOException;
+import java.lang.reflect.InvocationTargetException;
+import java.lang.reflect.Method;
+import java.nio.file.Files;
+import java.nio.file.Path;
+import java.util.ArrayList;
+import java.util.Comparator;
+import java.util.LinkedHashMap;
+import java.util.List;
+import java.util.Map;
+import java.util.regex.Matcher;
+import java.util.regex.Pattern;
+
+/**
+ * Runs the tests that are named after a promise and a sentence of it: promise05_atMost60 and its like.
+ * The part ahead of the _ tells where in the document the sentence stands; it is looked for there.
+ */
+final class Sentences {
+    static final Class<?>[] CLASSES = {BoundsOfTraysTest.class, BoundsOfTextsTest.class, BoundsOfFaultsTest.class,
+        BoundsOfDeedsTest.class, BoundsOfWorthTest.class, BoundsOfNumbersTest.class, BoundsOfColouringsTest.class,
+        BoundsOfSeasonsTest.class, BoundsOfStatusTest.class};
+
+    private static final Pattern NAME = Pattern.compile("(head|terms|paragraph[2-5]|promise[0-5][0-9])_[a-zA-Z0-9]+");
+    private static final Pattern HEADING = Pattern.compile("## (What it is|The public face|Terms|Not promised|Promise ([0-9]+)):?"
+        + "|==== ([2-5])\\.");
+
+    private Sentences() {
+    }
+
+    static void run(Class<?> tests) {
+        Map<String, String> document = document();
+        for (Method test : testsOf(tests)) {
+            int before = Check.wrong();
+            String words = test.getAnnotation(Sentence.class).value();
+            String part = partOf(test);
+            Check.due(part + " of the document says: " + words, document.getOrDefault(part, "").contains(words), true);
+            invoke(test);
+            if (Check.wrong() > before) System.out.println("FAILED: " + test.getName() + ": \"" + words + "\"");
+        }
+        Check.end(tests.getName());
+    }
+
+    private static void invoke(Method test) {
+        try {
+            test.invoke(null);
+        } catch (InvocationTargetException thrown) {
+            Check.due(test.getName() + " threw " + thrown.getCause(), false, true);
+        } catch (IllegalAccessException hidden) {
+            throw new IllegalStateException(hidden);
+        }
+    }
+
+    static List<Method> testsOf(Class<?> tests) {
+        List<Method> all = new ArrayList<>();
+        for (Method method : tests.getDeclaredMethods()) {
+            if (method.isAnnotationPresent(Sentence.class)) all.add(method);
+        }
+        all.sort(Comparator.comparing(Method::getName));
+        return all;
+    }
+
+    static String partOf(Method test) {
+        Matcher matcher = NAME.matcher(test.getName());
+        if (!matcher.matches()) throw new IllegalStateException("a test's name: " + test.getName());
+        return matcher.group(1);
+    }
+
+    /** The parts of the document by the names that the tests give them. */
+    static Map<String, String> document() {
+        String text;
+        try {
+            text = Files.readString(Path.of("..", "shared", "DOC.md"));
+        } catch (IOException missing) {
+            throw new IllegalStateException(missing);
+        }
+        Map<String, String> parts = new LinkedHashMap<>();
+        Matcher heading = HEADING.matcher(text.substring(text.indexOf("## What it is")));
+        String rest = text.substring(text.indexOf("## What it is"));
+        String name = "";
+        int from = 0;
+        while (heading.find()) {
+            // paragraphs 2 to 5 are told once; "==== 1." ends the first line
+            parts.put(name, rest.substring(from, heading.start()));
+            from = heading.end();
+            name = nameOf(heading);
+        }
+        parts.put(name, rest.substring(from));
+        return parts;
+    }
+
+    private static String nameOf(Matcher heading) {
+        if (heading.group(3) != null) return "paragraph" + heading.group(3);
+        if (heading.group(2) != null) return String.format("promise%02d", Integer.parseInt(heading.group(2)));
+        if (heading.group(1).equals("What it is")) return "head";
+        return heading.group(1).toLowerCase();
+    }
+}
