@@ -85,7 +85,7 @@ public final class BoundsOfColouringsTest {
         TWENTY.takes(10, "ask", 1023 << 10, 18, 0);
     }
 
-    @Sentence("(5: a set that can't be, too)")
+    @Sentence("COLOURINGS of a set by p by 2 to the k: how many ways (5: a set that can't be, too).")
     static void promise43_aSetThatCantBe() {
         RICH.refusesEach(5, NO_SETS, 0, "colourings", 0, -5, 2);
         RICH.takes(1, "colourings", 32, -5, 2);
@@ -111,7 +111,7 @@ public final class BoundsOfColouringsTest {
         FOUR.refuses(5, "firstRed", 31, 1, 0);
     }
 
-    @Sentence("(2; 5; 8: there is no way; 9: it is not of the set)")
+    @Sentence("The FRACTION is ODDS THAT a SPRIG of the set is BLUE (2; 5; 8: there is no way; 9: it is not of the set).")
     static void promise45_noSuchSprigIs2() {
         FOUR.asks(1, "oddsBlue", 15, 2, 0, 0);
         FOUR.tells(3, 4, "oddsBlue", 15, 2, 0, 3);
@@ -254,9 +254,21 @@ public final class BoundsOfColouringsTest {
         });
         many.refuses(9, "luck", 0);
         many.and(x -> x.cut(1, 19)).tells(1, 1, "luck", 0);
+        // those that STAND are behind those that FELL
+        Twins last = Twins.of("sprig red;".repeat(14) + "sprig blue;sprig red;sprig blue;sprig green;sprig green on 17;sprig red;").and(x -> {
+            for (int i = 0; i < 14; i++) x.cut(1, i);
+        });
+        Twins same = Twins.of("sprig blue;sprig red;sprig blue;sprig green;sprig green on 3;sprig red;");
+        for (int side = 0; side <= 1; side++) {
+            ShearHedge x = same.takes(1, "luck", side);
+            last.tells(x.top(), x.bottom(), "luck", side);
+        }
+        // what was asked of a HEDGE ahead is nothing to the next one
+        Twins other = Twins.of("sprig green;sprig green on 0;sprig green on 1;").and(x -> x.luck(0)).and(x -> x.cut(0, 0));
+        other.and(x -> x.grow(0, -1)).and(x -> x.grow(1, -1)).and(x -> x.grow(0, -1)).tells(1, 1, "luck", 1);
     }
 
-    @Sentence("both CUT at random, each SPRIG that may be CUT as likely, that SIDE first: the odds that LEFT wins")
+    @Sentence("LUCK of a SIDE: both CUT at random, each SPRIG that may be CUT as likely, that SIDE first: the odds that LEFT wins")
     static void paragraph3_eachAsLikely() {
         Twins.of("").tells(0, 1, "luck", 0);
         Twins.of("").tells(1, 1, "luck", 1);
@@ -271,7 +283,7 @@ public final class BoundsOfColouringsTest {
         Twins.of("sprig green;sprig green on 0;sprig green on 1;sprig green on 0;").tells(5, 12, "luck", 1);
     }
 
-    @Sentence("(2; 9: of another HEDGE)")
+    @Sentence("The FRACTION is LUCK of a SIDE (2; 9: of another HEDGE).")
     static void promise49_noSuchSideOrAnotherHedge() {
         Twins one = Twins.of("sprig blue;");
         one.asks(1, "luck", 0);

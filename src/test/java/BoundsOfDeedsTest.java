@@ -17,7 +17,7 @@ public final class BoundsOfDeedsTest {
         return twins.and(x -> {
             int side = score > 0 ? 0 : 1;
             x.take(side, 0);
-            while (x.many(6) != score) x.spend(side);
+            for (int spent = Math.abs(score); spent < 20; spent++) x.spend(side);
         });
     }
 
@@ -58,7 +58,7 @@ public final class BoundsOfDeedsTest {
         three.takes(2, "moves", 1);
     }
 
-    @Sentence("CUT a SPRIG that STANDS")
+    @Sentence("A MOVE of a SIDE: CUT a SPRIG that STANDS")
     static void paragraph2_aSprigThatFellIsNotCut() {
         Twins fell = Twins.of("sprig green;sprig green on 0;sprig green;").and(x -> x.cut(0, 0));
         for (int side = 0; side <= 1; side++) {
@@ -135,7 +135,7 @@ public final class BoundsOfDeedsTest {
         }
     }
 
-    @Sentence("who has none at his turn loses.")
+    @Sentence("By turns each makes one MOVE; who has none at his turn loses.")
     static void paragraph2_whoHasNoneLoses() {
         Twins nothing = Twins.of("");
         nothing.takes(1, "winner", 0);

@@ -90,6 +90,37 @@ public final class BoundsOfFaultsTest {
         faultySeasons("_any;", 1, 0);
     }
 
+    /** All words of a text that is right, each spoilt at its first letter, at its last, by one more and by one less. */
+    private static void spoilt(String call, String text) {
+        for (int from = 0; from < text.length(); from++) {
+            if (!isLetter(text, from) || isLetter(text, from - 1)) continue;
+            int to = from;
+            while (isLetter(text, to)) to++;
+            String ahead = text.substring(0, from);
+            String word = text.substring(from, to);
+            String behind = text.substring(to);
+            Twins untaped = Twins.untapedRich();
+            untaped.faulty(call, ahead + "q" + word.substring(1) + behind, 2, from);
+            untaped.faulty(call, ahead + word.substring(0, word.length() - 1) + "q" + behind, 2, from);
+            untaped.faulty(call, ahead + word + "q" + behind, 2, from);
+            untaped.faulty(call, ahead + "q" + word + behind, 2, from);
+            untaped.faulty(call, ahead + word.substring(1) + behind, 2, from);
+            untaped.faulty(call, ahead + word.substring(0, word.length() - 1) + behind, 2, from);
+            untaped.faulty(call, ahead + word.toUpperCase() + behind, 1, from);
+        }
+    }
+
+    private static boolean isLetter(String text, int at) {
+        return at >= 0 && at < text.length() && text.charAt(at) >= 'a' && text.charAt(at) <= 'z';
+    }
+
+    @Sentence("WORDS (small letters)")
+    static void terms_wordsThatAreNone() {
+        spoilt("hedge", "sprig blue;sprig red on 0;sprig green;heap 1;bet 1 1;");
+        spoilt("seasons", "cut left 0;take right 0;less 0 0;grow blue;grow red on 0;grow green;any;loop 1;end;stop;");
+        spoilt("seasons", "when stands 0;end;when worth<1;end;when nimber>1;end;when wins left;end;when wins right;end;");
+    }
+
     @Sentence("NUMBERS (1 to 4 digits)")
     static void terms_numbersOf1To4Digits() {
         Check.taken(hedge("heap 7;", 0), "heap(0)", hedge("heap 7;", 0).heap(0), 7);
@@ -138,7 +169,7 @@ public final class BoundsOfFaultsTest {
         Check.taken(all, "many(2)", all.many(2), 5);
     }
 
-    @Sentence("sprig COLOUR [on NUMBER] ; or heap NUMBER ; or bet NUMBER NUMBER ;")
+    @Sentence("PART: sprig COLOUR [on NUMBER] ; or heap NUMBER ; or bet NUMBER NUMBER ;")
     static void terms_whatMayStandInAPart() {
         faulty("any;", 2, 0);
         faulty("blue;", 2, 0);
@@ -160,6 +191,25 @@ public final class BoundsOfFaultsTest {
         faulty("bet 1 1 1;", 2, 8);
         faulty("bet 1;1;", 2, 5);
         faulty("heap < 1;", 2, 5);
+    }
+
+    @Sentence("({ } any number of times, [ ] perhaps.)")
+    static void terms_noneOneAndMany() {
+        hedge("", 0);
+        hedge("sprig blue;", 1);
+        hedge("sprig blue;sprig blue on 0;", 2);
+        seasons("", 0);
+        seasons("grow red;", 1);
+        seasons("grow red on 1;", 1);
+        seasons("loop 1;end;", 1);
+        seasons("loop 1;any;any;end;", 3);
+    }
+
+    @Sentence("SPRIGS, at most 20: BLUE (0), RED (1) or GREEN (2), ON a SPRIG told ahead")
+    static void terms_coloursByTheirNumbers() {
+        ShearHedge x = hedge("sprig green;sprig red;sprig blue;sprig green on 0;", 4);
+        int[] due = {2, 1, 0, 2};
+        for (int i = 0; i < 4; i++) Check.taken(x, "sprig(" + i + ", 0)", x.sprig(i, 0), due[i]);
     }
 
     @Sentence("COLOUR: blue or red or green.")
@@ -366,7 +416,7 @@ public final class BoundsOfFaultsTest {
         seasons(STEPS, 30);
     }
 
-    @Sentence("cut SIDE NUMBER ; or take SIDE NUMBER ; or less NUMBER NUMBER ; or grow COLOUR [on NUMBER] ; or any ; "
+    @Sentence("STEP: cut SIDE NUMBER ; or take SIDE NUMBER ; or less NUMBER NUMBER ; or grow COLOUR [on NUMBER] ; or any ; "
         + "or when TEST ; {STEP} end ; or loop NUMBER ; {STEP} end ; or stop ;")
     static void paragraph4_whatMayStandInAStep() {
         seasons("cut left 0;take right 0;less 0 0;grow blue;grow red on 0;any;when wins left;end;loop 1;end;stop;", 9);

@@ -70,7 +70,7 @@ public final class BoundsOfNumbersTest {
         RICH.refuses(5, "stalkAt", TOP + 1, 20, 0);
     }
 
-    @Sentence("of a whole number as many BLUE ones (RED ones below 0); of another one above 0 a BLUE one more than it is rounded down, "
+    @Sentence("the row of BLUE and RED SPRIGS, each on the one ahead, that is worth it: of a whole number as many BLUE ones (RED ones below 0); of another one above 0 a BLUE one more than it is rounded down, "
         + "a RED one, then, as to the number that is worth so far, BLUE if that is less, RED if it is more, till it is that; "
         + "of one below 0 that of the other sign with the other colours.")
     static void paragraph3_stalks() {
@@ -160,7 +160,7 @@ public final class BoundsOfNumbersTest {
 
     // ---- promises 39 to 42
 
-    @Sentence("(5; 9: the first one is not less)")
+    @Sentence("The FRACTION is the SIMPLEST number between p by 2 to the k and q by 2 to the m (5; 9: the first one is not less).")
     static void promise39_theFirstOneIsNotLess() {
         RICH.tells(3, 2, "simplest", 1, 0, 2, 0);
         RICH.asks(1, "simplest", 1, 0, 2, 0);
@@ -230,7 +230,7 @@ public final class BoundsOfNumbersTest {
         });
     }
 
-    @Sentence("a STALK of the first n numbers (0 to 20) of a TRAY (0 BLUE, 1 RED)")
+    @Sentence("The FRACTION is the WORTH of a STALK of the first n numbers (0 to 20) of a TRAY (0 BLUE, 1 RED)")
     static void promise42_firstNNumbers0To20() {
         long[] blue = new long[21];
         Twins many = row(0, blue);

@@ -44,7 +44,7 @@ public final class BoundsOfSeasonsTest {
 
     // ---- STEPS and what is MISSED
 
-    @Sentence("a cut (by any, too) of a SPRIG that there is not, that FELL, that the SIDE may not")
+    @Sentence("What can't be is MISSED: a cut (by any, too) of a SPRIG that there is not, that FELL, that the SIDE may not")
     static void paragraph4_cutsThatAreMissed() {
         String hedge = "sprig blue;sprig red;sprig green;";
         done(hedge, "cut left 0;");
@@ -86,6 +86,16 @@ public final class BoundsOfSeasonsTest {
         done("heap 1;".repeat(4), "less 3 0;");
         missed("heap 1;".repeat(3), "less 3 0;");
         missed("", "less 0 0;");
+    }
+
+    @Sentence("grow: a SPRIG more that STANDS;")
+    static void paragraph4_aSprigMoreThatStands() {
+        ShearHedge x = lives(of("sprig blue;", "cut left 0;grow blue;grow red on 1;grow green;"), 0, 4, 0, 1, 1, 3, 0);
+        Check.taken(x, "many(3)", x.many(3), 2 + 4 + 8);
+        Check.taken(x, "sprig(2, 1)", x.sprig(2, 1), 1);
+        Check.refused(x, "sprig(1, 1)", x.sprig(1, 1), 8);
+        int[] due = {0, 0, 1, 2};
+        for (int i = 0; i < 4; i++) Check.taken(x, "sprig(" + i + ", 0)", x.sprig(i, 0), due[i]);
     }
 
     @Sentence("a grow of a 21st SPRIG, on one that there is not, that FELL, that can't be by its COLOUR")
@@ -404,7 +414,7 @@ public final class BoundsOfSeasonsTest {
         RICH.and(x -> x.hedge(3)).takes(4, "live", 0);
     }
 
-    @Sentence("what 0: MISSED, 1: CUTS, 2: how many SPRIGS FELL, 3: GREW, 4: 1 if a STEP was left to be done")
+    @Sentence("what 0: MISSED, 1: CUTS, 2: how many SPRIGS FELL, 3: GREW, 4: 1 if a STEP was left to be done (by the 300 alone, not by stop), else 0")
     static void promise51_what0To4() {
         String seasons = "cut left 0;cut left 0;loop 5;grow red;end;cut right 4;cut right 1;grow red on 0;";
         Twins lived = of("sprig blue;sprig red on 0;sprig red on 0;", seasons).and(x -> x.live(0));
@@ -454,6 +464,13 @@ public final class BoundsOfSeasonsTest {
         }
         lived.and(x -> x.live(1)).takes(2, "lived", 0);
         lived.and(x -> x.live(1)).takes(0, "lived", 1);
+        Twins left = of("", "loop 99;loop 99;grow red;end;end;").and(x -> x.live(0));
+        left.takes(1, "lived", 4);
+        Twins then = left.and(x -> Check.seasons(x, "stop;")).and(x -> x.live(0));
+        for (int what = 0; what <= 4; what++) then.takes(0, "lived", what);
+        Twins when = left.and(x -> Check.seasons(x, "when stands 0;cut right 0;end;")).and(x -> x.live(0));
+        when.takes(1, "lived", 1);
+        when.takes(0, "lived", 4);
     }
 
     @Sentence("The FRACTION is the mean of the WORTH of the HEDGE behind the SEASONS, by so many seeds (1 to 20) from one on (all stays as it is)")

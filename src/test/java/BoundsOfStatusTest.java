@@ -116,6 +116,21 @@ public final class BoundsOfStatusTest {
         RICH.refuses(11, "pour", 0, 0, 2, 0, 1);
     }
 
+    @Sentence("10 a FAULT. 11 TRAYS of unlike sorts. 0 else.")
+    static void paragraph5_faultsUnlikeSortsAnd0() {
+        Twins.faultyHedge("heap", 2, 4);
+        Twins.faultySeasons("loop", 2, 4);
+        RICH.refuses(11, "pour", 0, 0, 2, 0, 1);
+        RICH.refuses(11, "pour", 2, 0, 1, 0, 0);
+        RICH.takes(1, "pour", 0, 0, 1, 0, 3);
+        ShearHedge x = RICH.made();
+        x.cut(0, 1);
+        Check.refused(x, "cut(0, 1)", x.cut(0, 1), 9);
+        Check.taken(x, "0 else", x.cut(0, 2), 1);
+        Check.refused(x, "pour(0, 0, 2, 0, 1)", x.pour(0, 0, 2, 0, 1), 11);
+        Check.taken(x, "0 else", x.pour(0, 0, 1, 0, 0));
+    }
+
     @Sentence("(but hedge(), seasons() with 10 the tape, and what fault() tells)")
     static void paragraph5_tenChangesTheTapeAndTheFault() {
         Twins.faultyHedge("sprig blue;heap 3;bet 1 1;.", 1, 26);

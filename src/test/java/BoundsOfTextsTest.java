@@ -230,7 +230,7 @@ public final class BoundsOfTextsTest {
 
     // ---- many, sprig, heap, bet
 
-    @Sentence("STATUS tells NONE from -1 (6) (5).")
+    @Sentence("the SCORE, STATUS tells NONE from -1 (6) (5).")
     static void promise13_what0To6() {
         int[] due = {8, 3, 3, 63, 5, 2, -1};
         for (int what = 0; what <= 6; what++) RICH.asks(due[what], "many", what);
@@ -252,6 +252,22 @@ public final class BoundsOfTextsTest {
         for (int what = 0; what <= 6; what++) nothing.takes(0, "many", what);
     }
 
+    @Sentence("the set of SPRIGS that STAND (1 for SPRIG 0 ..) (3), of BETS that are TAKEN (1 for BET 0 ..) (4)")
+    static void promise13_setsOfOneOfNoneAndOfAll() {
+        Twins three = Twins.of("sprig green;sprig green;sprig green;bet 1 1;bet 1 1;bet 1 1;");
+        for (int i = 0; i < 3; i++) {
+            int one = i;
+            Twins without = three.and(x -> x.cut(0, one)).and(x -> x.take(1, one));
+            without.takes(7 - (1 << i), "many", 3);
+            without.takes(1 << i, "many", 4);
+        }
+        three.takes(7, "many", 3);
+        three.takes(0, "many", 4);
+        Twins full = Twins.of("sprig red;".repeat(20) + "bet 1 1;".repeat(5));
+        full.and(x -> x.cut(1, 19)).takes((1 << 19) - 1, "many", 3);
+        full.and(x -> x.take(0, 4)).takes(16, "many", 4);
+    }
+
     @Sentence("how many CUTS were made (5)")
     static void promise13_howManyCutsWereMade() {
         ShearHedge x = UNTAPED.made();
@@ -268,6 +284,13 @@ public final class BoundsOfTextsTest {
         Check.taken(x, "by SEASONS, too, but none that is MISSED", x.many(5), 4);
         x.back();
         Check.taken(x, "taken back", x.many(5), 2);
+    }
+
+    @Sentence("Of a SPRIG, what 0: its COLOUR")
+    static void promise14_colours() {
+        int[] due = {0, 1, 0, 2, 2, 1, 0, 2};
+        for (int i = 0; i < 8; i++) RICH.asks(due[i], "sprig", i, 0);
+        RICH.and(x -> x.paint(0)).takes(1, "sprig", 0, 0);
     }
 
     @Sentence("(2; 5; 8)")

@@ -259,7 +259,7 @@ public final class BoundsOfTraysTest {
         ROWS.refusesEach(5, new long[] {61, 900, MAX}, 2, "tray", 0, 1, 0);
     }
 
-    @Sentence("all 0")
+    @Sentence("A TRAY is a row of so many numbers (at most 60; 5), all 0")
     static void promise05_all0() {
         ShearHedge x = ROWS.made();
         Check.taken(x, "a row anew, shorter", x.tray(0, 1, 3));

@@ -32,7 +32,16 @@ public final class BoundsOfWorthTest {
 
     // ---- paragraph 3: WORTH, NIM
 
-    @Sentence("if it is BLUE, (x + n) by 2 to the n less 1, as n is the least of 1, 2 .. by which x + n is above 1;")
+    @Sentence("NUMBERS here are wholes and halves of halves.")
+    static void paragraph3_halvesOfHalvesExactly() {
+        // of the most that is added up each part is still told
+        Twins.of("sprig blue;" + "sprig red on 0;".repeat(18) + "bet 20 0;").and(x -> x.take(0, 0)).tells((20L << 18) + 1, 1 << 18, "worth");
+        Twins.of("sprig blue;" + "sprig red on 0;".repeat(9) + "sprig red;" + "sprig blue on 10;".repeat(9)).tells(0, 1, "worth");
+        Twins.of("sprig blue;" + "sprig red on 0;".repeat(9) + "sprig red;" + "sprig blue on 10;".repeat(8)).tells(-1, 1 << 9, "worth");
+    }
+
+    @Sentence("WORTH of a BRANCH (a SPRIG that STANDS, BLUE or RED, with all that is on it): of the WORTHS of the BRANCHES right on it together, x: "
+        + "if it is BLUE, (x + n) by 2 to the n less 1, as n is the least of 1, 2 .. by which x + n is above 1;")
     static void paragraph3_theLeastNOfABlueOne() {
         worth("sprig blue;", 1, 1);
         worth("sprig blue;sprig blue on 0;", 2, 1);
@@ -145,7 +154,8 @@ public final class BoundsOfWorthTest {
         Twins.of("bet 20 20;bet 20 19;bet 20 20;").and(x -> x.take(0, 0)).takes(2, "hottest");
     }
 
-    @Sentence("STOP of a SIDE: from that on by turns all BETS are TAKEN")
+    @Sentence("STOP of a SIDE: from that on by turns all BETS are TAKEN, the HOTTEST first (for LEFT and for RIGHT together the most, "
+        + "of several the first): the WORTH then.")
     static void paragraph3_stopOfNoneAndOfAll() {
         Twins none = Twins.of("sprig blue;sprig red on 0;heap 3;");
         none.tells(1, 2, "stop", 0);

@@ -80,12 +80,29 @@ final class Sentences {
         int from = 0;
         while (heading.find()) {
             // paragraphs 2 to 5 are told once; "==== 1." ends the first line
-            parts.put(name, rest.substring(from, heading.start()));
+            parts.put(name, rest.substring(from, heading.start()).replaceAll("```(text)?", ""));
             from = heading.end();
             name = nameOf(heading);
         }
-        parts.put(name, rest.substring(from));
+        parts.put(name, rest.substring(from).replaceAll("```", ""));
         return parts;
+    }
+
+    /** What of a part of the document stands in no test's sentence; what lies between two sentences is no word. */
+    static String untested(String part, String text) {
+        char[] rest = text.toCharArray();
+        for (Class<?> tests : CLASSES) {
+            for (Method test : testsOf(tests)) {
+                if (partOf(test).equals(part)) blot(rest, text, test.getAnnotation(Sentence.class).value());
+            }
+        }
+        return new String(rest).replaceAll("[^A-Za-z0-9]+", " ").trim();
+    }
+
+    private static void blot(char[] rest, String text, String words) {
+        for (int at = text.indexOf(words); at >= 0; at = text.indexOf(words, at + 1)) {
+            for (int i = at; i < at + words.length(); i++) rest[i] = ' ';
+        }
     }
 
     private static String nameOf(Matcher heading) {

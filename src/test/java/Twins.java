@@ -114,9 +114,14 @@ final class Twins {
         }
     }
 
-    /** The call is taken as it is, and nothing is changed by it but STATUS and the FRACTION. */
+    /** The call is taken, answers the same once more, and changes nothing but STATUS and the FRACTION. */
     void asks(long answer, String call, long... arguments) {
-        takes(answer, call, arguments);
+        ShearHedge asked = takes(answer, call, arguments);
+        long top = asked.top();
+        long bottom = asked.bottom();
+        Check.taken(asked, text(call, arguments) + " once more", call(asked, call, arguments), answer);
+        Check.due(text(call, arguments) + " once more, then top()", asked.top(), top);
+        Check.due(text(call, arguments) + " once more, then bottom()", asked.bottom(), bottom);
         // both are told the same FRACTION then
         changesNothing(text(call, arguments), x -> {
             call(x, call, arguments);
