@@ -13,13 +13,14 @@ import java.util.regex.Pattern;
 
 /**
  * Runs the tests that are named after a promise and a sentence of it: promise05_atMost60 and its like.
- * The part ahead of the _ tells where in the document the sentence stands; it is looked for there.
+ * The part ahead of the _ tells where in the document the sentence stands; SentencesTest looks for it there.
  */
 final class Sentences {
     static final Class<?>[] CLASSES = {BoundsOfTraysTest.class, BoundsOfTextsTest.class, BoundsOfFaultsTest.class,
         BoundsOfDeedsTest.class, BoundsOfWorthTest.class, BoundsOfNumbersTest.class, BoundsOfColouringsTest.class,
         BoundsOfSeasonsTest.class, BoundsOfStatusTest.class};
 
+    private static final Path DOCUMENT = Path.of("..", "shared", "DOC.md");
     private static final Pattern NAME = Pattern.compile("(head|terms|paragraph[2-5]|promise[0-5][0-9])_[a-zA-Z0-9]+");
     private static final Pattern HEADING = Pattern.compile("## (What it is|The public face|Terms|Not promised|Promise ([0-9]+)):?"
         + "|==== ([2-5])\\.");
@@ -28,14 +29,10 @@ final class Sentences {
     }
 
     static void run(Class<?> tests) {
-        Map<String, String> document = document();
         for (Method test : testsOf(tests)) {
             int before = Check.wrong();
-            String words = test.getAnnotation(Sentence.class).value();
-            String part = partOf(test);
-            Check.due(part + " of the document says: " + words, document.getOrDefault(part, "").contains(words), true);
             invoke(test);
-            if (Check.wrong() > before) System.out.println("FAILED: " + test.getName() + ": \"" + words + "\"");
+            if (Check.wrong() > before) System.out.println("FAILED: " + test.getName() + ": \"" + wordsOf(test) + "\"");
         }
         Check.end(tests.getName());
     }
@@ -59,27 +56,29 @@ final class Sentences {
         return all;
     }
 
+    static String wordsOf(Method test) {
+        return test.getAnnotation(Sentence.class).value();
+    }
+
     static String partOf(Method test) {
         Matcher matcher = NAME.matcher(test.getName());
         if (!matcher.matches()) throw new IllegalStateException("a test's name: " + test.getName());
         return matcher.group(1);
     }
 
+    static boolean hasDocument() {
+        return Files.isReadable(DOCUMENT);
+    }
+
     /** The parts of the document by the names that the tests give them. */
-    static Map<String, String> document() {
-        String text;
-        try {
-            text = Files.readString(Path.of("..", "shared", "DOC.md"));
-        } catch (IOException missing) {
-            throw new IllegalStateException(missing);
-        }
+    static Map<String, String> document() throws IOException {
+        String text = Files.readString(DOCUMENT);
+        String rest = text.substring(Math.max(0, text.indexOf("## What it is")));
         Map<String, String> parts = new LinkedHashMap<>();
-        Matcher heading = HEADING.matcher(text.substring(text.indexOf("## What it is")));
-        String rest = text.substring(text.indexOf("## What it is"));
+        Matcher heading = HEADING.matcher(rest);
         String name = "";
         int from = 0;
         while (heading.find()) {
-            // paragraphs 2 to 5 are told once; "==== 1." ends the first line
             parts.put(name, rest.substring(from, heading.start()).replaceAll("```(text)?", ""));
             from = heading.end();
             name = nameOf(heading);
@@ -93,7 +92,7 @@ final class Sentences {
         char[] rest = text.toCharArray();
         for (Class<?> tests : CLASSES) {
             for (Method test : testsOf(tests)) {
-                if (partOf(test).equals(part)) blot(rest, text, test.getAnnotation(Sentence.class).value());
+                if (partOf(test).equals(part)) blot(rest, text, wordsOf(test));
             }
         }
         return new String(rest).replaceAll("[^A-Za-z0-9]+", " ").trim();
