@@ -82,7 +82,8 @@ public final class BoundsOfColouringsTest {
         Twins.of("sprig blue;sprig blue on 0;sprig blue;sprig blue;sprig blue;").takes(2, "ask", 31, 1, 1);
         // 0 parts three ways to 2 and 1, 3 to 3 and 0
         Twins.of("sprig blue;sprig blue;sprig blue;sprig red on 2;").takes(0, "ask", 15, 1, 1);
-        TWENTY.takes(10, "ask", 1023 << 10, 18, 0);
+        TWENTY.asks(10, "ask", 1023 << 10, 18, 0);
+        for (int i = 10; i < 20; i++) TWENTY.and(x -> x.ask(1023 << 10, 18, 0)).tells(9, 10, "oddsBlue", 1023 << 10, 18, 0, i);
     }
 
     @Sentence("COLOURINGS of a set by p by 2 to the k: how many ways (5: a set that can't be, too).")
@@ -265,7 +266,7 @@ public final class BoundsOfColouringsTest {
         }
         // what was asked of a HEDGE ahead is nothing to the next one
         Twins other = Twins.of("sprig green;sprig green on 0;sprig green on 1;").and(x -> x.luck(0)).and(x -> x.cut(0, 0));
-        other.and(x -> x.grow(0, -1)).and(x -> x.grow(1, -1)).and(x -> x.grow(0, -1)).tells(1, 1, "luck", 1);
+        other.and(x -> x.grow(0, -1)).and(x -> x.grow(1, -1)).and(x -> x.grow(1, -1)).tells(0, 1, "luck", 0);
     }
 
     @Sentence("LUCK of a SIDE: both CUT at random, each SPRIG that may be CUT as likely, that SIDE first: the odds that LEFT wins")

@@ -393,6 +393,10 @@ public final class BoundsOfFaultsTest {
         Check.refused(x, "sprig(2, 0)", x.sprig(2, 0), 2);
         Check.refused(x, "heap(0)", x.heap(0), 2);
         Check.refused(x, "bet(1, 0)", x.bet(1, 0), 2);
+        Check.taken(x, "moves(0): none is left of that ahead", x.moves(0), 2);
+        Check.taken(x, "nimber()", x.nimber(), 0);
+        Check.tells(x, "worth()", x.worth(), 0, 1);
+        Check.taken(x, "hottest()", x.hottest(), 0);
         Check.taken(x, "MARKS are there still", x.back(), 1);
         Check.taken(x, "and the SEASONS of then", x.live(0), 4);
     }

@@ -94,7 +94,8 @@ public final class BoundsOfWorthTest {
         StringBuilder stalk = new StringBuilder("sprig green;");
         for (int i = 0; i < 19; i++) stalk.append("sprig green on ").append(i).append(';');
         Twins tall = Twins.of(stalk.toString());
-        for (int i = 0; i < 20; i++) tall.takes(20 - i, "nimOf", i);
+        for (int i = 0; i < 20; i++) tall.asks(20 - i, "nimOf", i);
+        tall.asks(20, "nimber");
         Twins.of("sprig green;sprig green on 0;sprig green on 0;").takes(1, "nimOf", 0);
         Twins.of("sprig green;sprig green on 0;sprig green on 1;sprig green on 0;").takes(1 + (2 ^ 1), "nimOf", 0);
         RICH.takes(2, "nimOf", 3);
@@ -318,6 +319,16 @@ public final class BoundsOfWorthTest {
         won.takes(6, "moves", 1);
         won.takes(6, "wins", 1);
         won.takes(0, "wins", 0);
+        // SPEND brings the SCORE to 0: who has none of the HEAP left wins then
+        Twins spend = Twins.of("bet 1 1;heap 1;");
+        for (int i = 0; i <= 1; i++) {
+            int side = i;
+            Twins one = spend.and(x -> x.take(side, 0));
+            one.takes(2, "moves", side);
+            one.asks(1, "wins", side);
+            best(one, side, 2, 0, 0);
+            one.and(x -> x.less(0, 0)).takes(1, "wins", side);
+        }
         // to WORTH 0 a MOVE wins if NIMBER is 0 then
         Twins.of("sprig blue;").takes(1, "wins", 0);
         Twins.of("sprig blue;heap 1;").takes(1, "wins", 0);
