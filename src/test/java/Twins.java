@@ -76,8 +76,13 @@ final class Twins {
 
     ShearHedge made() {
         ShearHedge x = new ShearHedge();
-        setup.on(x);
+        make(x);
         return x;
+    }
+
+    /** What makes a new object one of these twins. */
+    void make(ShearHedge x) {
+        setup.on(x);
     }
 
     // ---- what a test looks at
